@@ -108,7 +108,7 @@ public final class TreeQueries {
         if (index >= length) {
             return NONE;
         }
-        return Bits.position(Bits.nth(found, Tree.isReverse(axis) ? length - 1 - index : index));
+        return Tree.position(Tree.nth(found, Tree.isReverse(axis) ? length - 1 - index : index));
     }
 
     public int type(int value) throws IllegalArgumentException, IllegalStateException {
@@ -132,7 +132,9 @@ public final class TreeQueries {
         if (fault != NONE) {
             return FAULT_BASE - fault;
         }
-        return layDraft(query);
+        history.push(now);
+        now.queries[query].copyFrom(draft);
+        return draft.length;
     }
 
     public int written(int query, int index)
@@ -164,7 +166,9 @@ public final class TreeQueries {
         // The place may be one of the two that are united, so the union is made beside them.
         draft.copyFrom(now.queries[first]);
         draft.append(now.queries[second]);
-        return layDraft(query);
+        history.push(now);
+        now.queries[query].copyFrom(draft);
+        return draft.length;
     }
 
     public int drop(int query) throws IndexOutOfBoundsException {
@@ -189,7 +193,7 @@ public final class TreeQueries {
         requireNotNegative(index);
         requireQuery(query);
         long found = selectedFrom(query, context);
-        return index < Long.bitCount(found) ? Bits.position(Bits.nth(found, index)) : NONE;
+        return index < Long.bitCount(found) ? Tree.position(Tree.nth(found, index)) : NONE;
     }
 
     public int sum(int query, int context) throws IndexOutOfBoundsException, IllegalStateException {
@@ -314,13 +318,6 @@ public final class TreeQueries {
         return hash;
     }
 
-    /** The place and the draft are tested before. */
-    private int layDraft(int place) {
-        history.push(now);
-        now.queries[place].copyFrom(draft);
-        return draft.length;
-    }
-
     private long selectedFrom(int place, int context) {
         evaluator.prepare(now.queries[place]);
         return evaluator.selectFrom(now.queries[place], context);
@@ -374,28 +371,6 @@ public final class TreeQueries {
         }
     }
 
-    /** Sets of nodes are the bits of a long: the bit n is the node n, so that their order is the document order. */
-    private static final class Bits {
-        /** The bits from one number to the one before another. */
-        static long range(int from, int end) {
-            return end > from ? (1L << end) - (1L << from) : 0L;
-        }
-
-        /** The set of one bit alone, counted from 0 at the lowest; empty if there are not so many. */
-        static long nth(long set, int index) {
-            long left = set;
-            for (int passed = 0; passed < index; passed++) {
-                left &= left - 1;
-            }
-            return left & -left;
-        }
-
-        /** The number of the lowest bit; 64 if there is none. */
-        static int position(long set) {
-            return Long.bitCount((set & -set) - 1);
-        }
-    }
-
     /** A row of bytes: the typed text, or a query as it is written. */
     private static final class Text {
         private final byte[] bytes;
@@ -424,7 +399,10 @@ public final class TreeQueries {
         }
     }
 
-    /** The document tree. Its rows are indexed by the numbers of the nodes. */
+    /**
+     * The document tree. Its rows are indexed by the numbers of the nodes. A set of nodes is a long, where the bit n
+     * is the node n, so that the order of the bits is the document order.
+     */
     private static final class Tree {
         private int length = 1;
         private final int[] names = new int[MOST_NODES];
@@ -566,21 +544,21 @@ public final class TreeQueries {
                 case SELF:
                     return 1L << node;
                 case DESCENDANT:
-                    return Bits.range(node + 1, lasts[node] + 1);
+                    return range(node + 1, lasts[node] + 1);
                 case DESCENDANT_OR_SELF:
-                    return Bits.range(node, lasts[node] + 1);
+                    return range(node, lasts[node] + 1);
                 case FOLLOWING_SIBLING:
-                    return siblings(node) & Bits.range(node + 1, length);
+                    return siblings(node) & range(node + 1, length);
                 case FOLLOWING:
-                    return Bits.range(lasts[node] + 1, length);
+                    return range(lasts[node] + 1, length);
                 case PARENT:
                     return parents[node] >= 0 ? 1L << parents[node] : 0L;
                 case ANCESTOR:
                     return ancestors[node];
                 case PRECEDING_SIBLING:
-                    return siblings(node) & Bits.range(0, node);
+                    return siblings(node) & range(0, node);
                 default:
-                    return Bits.range(0, node) & ~ancestors[node];
+                    return range(0, node) & ~ancestors[node];
             }
         }
 
@@ -597,7 +575,7 @@ public final class TreeQueries {
 
         long passing(int test) {
             if (test == ANY) {
-                return Bits.range(0, length);
+                return range(0, length);
             }
             long passing = 0L;
             for (int node = 0; node < length; node++) {
@@ -638,6 +616,25 @@ public final class TreeQueries {
             }
             return total;
         }
+
+        /** The bits from one number to the one before another. */
+        static long range(int from, int end) {
+            return end > from ? (1L << end) - (1L << from) : 0L;
+        }
+
+        /** The set of one bit alone, counted from 0 at the lowest; empty if there are not so many. */
+        static long nth(long set, int index) {
+            long left = set;
+            for (int passed = 0; passed < index; passed++) {
+                left &= left - 1;
+            }
+            return left & -left;
+        }
+
+        /** The number of the lowest bit; 64 if there is none. */
+        static int position(long set) {
+            return Long.bitCount((set & -set) - 1);
+        }
     }
 
     /**
@@ -649,6 +646,7 @@ public final class TreeQueries {
         static final int NO_CONDITION = 0;
         static final int POSITION = 1, LAST = 2, VALUE = 3, EXISTS = 4;
         static final int OPPOSITE = 8;
+        private static final int KIND = 7;
         private static final int ONE_STEP = 16;
         private static final int DETAILS = 6;
         private static final int STEP_BITS = 8;
@@ -664,7 +662,7 @@ public final class TreeQueries {
         }
 
         static int kindOf(int condition) {
-            return condition & 7;
+            return condition & KIND;
         }
 
         static boolean isOpposite(int condition) {
@@ -672,7 +670,7 @@ public final class TreeQueries {
         }
 
         static boolean isPositional(int condition) {
-            int kind = kindOf(condition);
+            int kind = condition & KIND;
             return kind == POSITION || kind == LAST;
         }
 
@@ -693,27 +691,16 @@ public final class TreeQueries {
         }
 
         static void writeTo(Text out, int condition) {
+            int kind = kindOf(condition);
             if (isOpposite(condition)) {
                 out.put('-');
             }
-            switch (kindOf(condition)) {
-                case POSITION:
-                    out.put('0' + digitOf(condition));
-                    break;
-                case LAST:
-                    out.put('$');
-                    break;
-                case VALUE:
-                    out.put('=');
-                    out.put('0' + digitOf(condition));
-                    break;
-                default:
-                    writeShortPath(out, condition);
+            if (kind != POSITION) {
+                out.put(kind == LAST ? '$' : kind == VALUE ? '=' : '?');
             }
-        }
-
-        private static void writeShortPath(Text out, int condition) {
-            out.put('?');
+            if (kind == POSITION || kind == VALUE) {
+                out.put('0' + digitOf(condition));
+            }
             for (int step = 0; step < stepsOf(condition); step++) {
                 if (step > 0) {
                     out.put('/');
@@ -756,11 +743,7 @@ public final class TreeQueries {
         }
 
         boolean isPositional() {
-            return isPositionalWithin(0, STEP_SLOTS);
-        }
-
-        private boolean isPositionalWithin(int first, int end) {
-            for (int slot = first; slot < end && slot < STEP_SLOTS; slot++) {
+            for (int slot = 0; slot < STEP_SLOTS; slot++) {
                 if (Condition.isPositional(slots[slot])) {
                     return true;
                 }
@@ -854,8 +837,7 @@ public final class TreeQueries {
         /** Rule 8: whether a predicate like the one before it was there and is removed. */
         boolean dropRepeatedPredicate() {
             for (int second = 1; second < predicates; second++) {
-                int first = (second - 1) * PREDICATE_SLOTS;
-                if (isRepeated(first) && !isPositionalWithin(first, first + PREDICATE_SLOTS)) {
+                if (repeatsOneBefore(second)) {
                     removePredicate(second);
                     return true;
                 }
@@ -863,9 +845,10 @@ public final class TreeQueries {
             return false;
         }
 
-        private boolean isRepeated(int first) {
-            for (int slot = first; slot < first + PREDICATE_SLOTS; slot++) {
-                if (conditionAt(slot) != conditionAt(slot + PREDICATE_SLOTS)) {
+        private boolean repeatsOneBefore(int predicate) {
+            int first = predicate * PREDICATE_SLOTS;
+            for (int slot = first; slot < first + PREDICATE_SLOTS && slot < STEP_SLOTS; slot++) {
+                if (slots[slot] != conditionAt(slot - PREDICATE_SLOTS) || Condition.isPositional(slots[slot])) {
                     return false;
                 }
             }
@@ -1141,7 +1124,7 @@ public final class TreeQueries {
         private boolean accepts(int sign) {
             switch (state) {
                 case PATH_START:
-                    return acceptsPathStart(sign);
+                    return sign == '/' ? acceptsFirstSlash() : acceptsStep(sign);
                 case AFTER_SLASH:
                     return sign == '/' ? acceptsSecondSlash() : acceptsStep(sign);
                 case STEP_START:
@@ -1167,10 +1150,7 @@ public final class TreeQueries {
             }
         }
 
-        private boolean acceptsPathStart(int sign) {
-            if (sign != '/') {
-                return acceptsStep(sign);
-            }
+        private boolean acceptsFirstSlash() {
             path.absolute = true;
             state = AFTER_SLASH;
             return true;
@@ -1331,7 +1311,12 @@ public final class TreeQueries {
         void run(Query query) {
             Arrays.fill(used, 0);
             for (int path = 0; path < query.length; path++) {
-                shorten(query.paths[path]);
+                boolean shorter = true;
+                for (int use = 0; use < MOST_USES && shorter; use++) {
+                    int rule = useFirstRule(query.paths[path]);
+                    used[rule]++;
+                    shorter = rule > 0;
+                }
             }
             // From behind, so that a removed path changes no number that is still to come.
             for (int path = query.length - 1; path > 0; path--) {
@@ -1348,14 +1333,6 @@ public final class TreeQueries {
                 total += used[rule];
             }
             return total;
-        }
-
-        private void shorten(Path path) {
-            int rule = useFirstRule(path);
-            for (int use = 0; use < MOST_USES && rule > 0 && rule <= RULES; use++) {
-                used[rule]++;
-                rule = useFirstRule(path);
-            }
         }
 
         /** The rule that was used; 0 if none can be. */
@@ -1510,7 +1487,7 @@ public final class TreeQueries {
             long reached = 0L;
             long left = from;
             for (int count = Long.bitCount(from); count > 0; count--) {
-                reached |= giftAt(row + Bits.position(left));
+                reached |= giftAt(row + Tree.position(left));
                 left &= left - 1;
             }
             return reached;
@@ -1582,7 +1559,7 @@ public final class TreeQueries {
             if (number < 1 || number > total) {
                 return 0L;
             }
-            return Bits.nth(nodes, reverse ? total - number : number - 1);
+            return Tree.nth(nodes, reverse ? total - number : number - 1);
         }
     }
 }
