@@ -39,10 +39,10 @@ public final class TreeQueries {
     private final Text text = new Text(TEXT_BYTES);
     private final Text writing = new Text(WRITTEN_BYTES);
     private final Query draft = new Query();
-    private final Parser parser = new Parser(draft);
+    private final Parser parser = new Parser();
     private final Rewriter rewriter = new Rewriter();
-    private final Evaluator evaluator = new Evaluator(now.tree);
-    private final Evaluator otherEvaluator = new Evaluator(now.tree);
+    private final Evaluator evaluator = new Evaluator();
+    private final Evaluator otherEvaluator = new Evaluator();
 
     public TreeQueries() {
     }
@@ -133,8 +133,8 @@ public final class TreeQueries {
             return FAULT_BASE - fault;
         }
         history.push(now);
-        now.queries[query].copyFrom(draft);
-        return draft.length;
+        now.queries[query].copyFrom(parser.query);
+        return now.queries[query].length;
     }
 
     public int written(int query, int index)
@@ -168,7 +168,7 @@ public final class TreeQueries {
         draft.append(now.queries[second]);
         history.push(now);
         now.queries[query].copyFrom(draft);
-        return draft.length;
+        return now.queries[query].length;
     }
 
     public int drop(int query) throws IndexOutOfBoundsException {
@@ -210,7 +210,7 @@ public final class TreeQueries {
         requireQuery(query);
         requireBelow(path, now.queries[query].length);
         requireBelow(step, now.queries[query].paths[path].length);
-        evaluator.prepare(now.queries[query]);
+        evaluator.prepare(now.tree, now.queries[query]);
         return Long.bitCount(evaluator.givenBy(path, step, node));
     }
 
@@ -219,8 +219,8 @@ public final class TreeQueries {
         requirePlace(second);
         requireQuery(first);
         requireQuery(second);
-        evaluator.prepare(now.queries[first]);
-        otherEvaluator.prepare(now.queries[second]);
+        evaluator.prepare(now.tree, now.queries[first]);
+        otherEvaluator.prepare(now.tree, now.queries[second]);
         int different = 0;
         for (int context = 0; context < now.tree.length; context++) {
             if (evaluator.selectFrom(now.queries[first], context)
@@ -299,7 +299,7 @@ public final class TreeQueries {
 
     private long hashSelection(long start, Query query) {
         long hash = start;
-        evaluator.prepare(query);
+        evaluator.prepare(now.tree, query);
         for (int context = 0; context < now.tree.length; context++) {
             long found = evaluator.selectFrom(query, context);
             hash = 31L * hash + Long.bitCount(found);
@@ -319,7 +319,7 @@ public final class TreeQueries {
     }
 
     private long selectedFrom(int place, int context) {
-        evaluator.prepare(now.queries[place]);
+        evaluator.prepare(now.tree, now.queries[place]);
         return evaluator.selectFrom(now.queries[place], context);
     }
 
@@ -1094,21 +1094,15 @@ public final class TreeQueries {
                 CONDITION_START = 5, ATOM = 6, VALUE_DIGIT = 7, SHORT_START = 8, SHORT_TEST = 9, SHORT_END = 10,
                 CONDITION_END = 11;
 
-        private final Query query;
-        private Path path;
-        private Step step;
+        private final Query query = new Query();
+        private Path path = query.paths[0];
+        private Step step = path.steps[0];
         private int state = PATH_START;
         private int axis = CHILD;
         private int slot = 0;
         private int opposite = 0;
 
-        Parser(Query target) {
-            query = target;
-            path = target.paths[0];
-            step = path.steps[0];
-        }
-
-        /** The fault of a text; NONE if it is a query, which the target then is too. */
+        /** The fault of a text; NONE if it is a query, which then stands in this parser. */
         int faultOf(Text text) {
             query.length = 0;
             path = query.addPath();
@@ -1438,23 +1432,18 @@ public final class TreeQueries {
         }
     }
 
-    /** Evaluates one query at a time on a tree. */
+    /** Evaluates one query at a time. */
     private static final class Evaluator {
-        private final Tree tree;
         /** For each step of each path, and each node, what the step gives for it. */
         private final long[] gifts = new long[MOST_PATHS * MOST_STEPS * MOST_NODES];
         /** For each slot of the step at hand, the nodes whose value or short path agrees. */
         private final long[] agreeing = new long[STEP_SLOTS];
 
-        Evaluator(Tree document) {
-            tree = document;
-        }
-
         /** To be called before the next two, and again after any change. */
-        void prepare(Query query) {
+        void prepare(Tree tree, Query query) {
             for (int path = 0; path < query.length; path++) {
                 for (int step = 0; step < query.paths[path].length; step++) {
-                    prepareStep(query.paths[path].steps[step], rowOf(path, step));
+                    prepareStep(tree, query.paths[path].steps[step], rowOf(path, step));
                 }
             }
         }
@@ -1493,9 +1482,9 @@ public final class TreeQueries {
             return reached;
         }
 
-        private void prepareStep(Step step, int row) {
+        private void prepareStep(Tree tree, Step step, int row) {
             for (int slot = 0; slot < step.predicates * PREDICATE_SLOTS && slot < STEP_SLOTS; slot++) {
-                agreeing[slot] = nodesFor(step.slots[slot]);
+                agreeing[slot] = nodesFor(tree, step.slots[slot]);
             }
             long passing = tree.passing(step.test);
             for (int node = 0; node < tree.length && row + node < gifts.length; node++) {
@@ -1508,7 +1497,7 @@ public final class TreeQueries {
         }
 
         /** The nodes for which a condition without a position holds, were it not an opposite. */
-        private long nodesFor(int condition) {
+        private static long nodesFor(Tree tree, int condition) {
             int kind = Condition.kindOf(condition);
             if (kind == Condition.VALUE) {
                 return tree.valued(Condition.digitOf(condition));

@@ -9,10 +9,11 @@ import java.util.regex.Pattern;
 public final class LanguageTest {
     private static final Path PROGRAM = Path.of("src/main/java/TreeQueries.java");
     private static final String[] FORBIDDEN = {"->", "::", "\\bassert\\b", "\\bsynchronized\\b", "\\bfinally\\b",
-        "\\bcatch\\b", "\\btry\\b", "\\w+Exact\\b", "\\bpackage\\b", "\\bprotected\\b", "\\bnull\\b", "\\bObject\\b",
-        "\\bextends\\b", "\\bSystem\\.(?!arraycopy\\b)", "\\bArrays\\.(?!fill\\b|copyOf\\b|copyOfRange\\b)",
-        "\\bMath\\.(?!max\\b|min\\b)", "\\bLong\\.(?!bitCount\\b)", "\\bInteger\\b", "\\bequals\\b", "\\bhashCode\\b",
-        "\\btoString\\b", "\\bstatic\\s*\\{", "\\bimport (?!java\\.util\\.Arrays;)", "\\bvar\\b", "\\bgoto\\b"};
+        "\\w+Exact\\b", "\\bpackage\\b", "\\bprotected\\b", "\\bObject\\b", "\\bThrowable\\b", "\\bException\\b",
+        "\\bcatch \\((ArrayIndex|NullPointer|Arithmetic|ClassCast|NegativeArray|ArrayStore|Runtime)",
+        "\\bSystem\\.(?!arraycopy\\b)", "\\bArrays\\.(?!fill\\b|copyOf\\b|copyOfRange\\b)", "\\bhashCode\\b",
+        "\\bMath\\.(random|sqrt|pow)\\b", "\\bstatic\\s*\\{", "\\bvar\\b",
+        "\\bimport (?!java\\.util\\.(Arrays|ArrayList|List|Iterator|NoSuchElementException);)"};
 
     private static int wrong = 0;
 
