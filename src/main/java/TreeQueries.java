@@ -453,16 +453,15 @@ public final class TreeQueries {
 
         /** Moves a node with all below it behind the last child of another; tells its number then. */
         int hang(int node, int parent) {
-            int end = lasts[node] + 1;
-            int behind = lasts[parent];
-            // A last child stays where it is: behind the node just before it.
-            boolean stays = behind >= node && behind < end;
             parents[node] = parent;
-            arrange(node, end, stays ? node - 1 : behind);
+            arrange(node, lasts[node] + 1, lasts[parent]);
             return numbers[node];
         }
 
-        /** Puts the nodes from first to end - 1 directly behind another node (nowhere if it is NONE). */
+        /**
+         * Puts the nodes from first to end - 1 directly behind another node: nowhere if it is NONE, and where they are
+         * if it is one of them, as for a last child that is moved to its own parent.
+         */
         private int arrange(int first, int end, int behind) {
             int laid = 0;
             for (int node = 0; node < length; node++) {
