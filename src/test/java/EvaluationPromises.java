@@ -193,6 +193,9 @@ final class EvaluationPromises extends Sentences {
         sentence("Returns the number.");
         is("0", grownWith("h").given(0, 0, 0, 0), 0);
         is("40", most().given(0, 0, 0, 0), 40);
+        TreeQueries full = wide(40);
+        read(full, 3, "a/b/c/d/e/f/g/h|a/b/c/d/e/f/g/h|a/b/c/d/e/f/g/h|a/b/c/d/e/f/g/<*");
+        is("the last step of the last path for the last node", full.given(3, 3, 7, 39), 38);
         is("an absolute path all the same", grownWith("/*").given(0, 0, 0, 3), 1);
 
         sentence("Throws `IndexOutOfBoundsException` if there is no such place or node");

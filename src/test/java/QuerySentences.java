@@ -287,6 +287,11 @@ final class QuerySentences extends Sentences {
         selects(wide(40), "*[$]", 0, "39");
         selects(wide(40), "<*[9]", 39, "30");
         selects(wide(40), "*[=9][4]", 0, "39");
+        selects(wide(40), "*[-?>*]", 0, "39");
+        selects(wide(40), "*[-?<*]", 0, "1");
+        selects(wide(40), "#*[-?^*]", 0, "0");
+        selects(chain(40), "#*[-?%*]", 0, "39");
+        selects(chain(40), "%*[-?~*/^*/.*]", 0, "1");
     }
 
     private static void selections() {
@@ -311,6 +316,7 @@ final class QuerySentences extends Sentences {
         selects(chain(40), "*/*/*/*/*/*/*/*", 32, "");
         selects(new TreeQueries(), "#*", 0, "0");
         is("all 40 nodes", grownOf(wide(40), "#*").count(0, 0), 40);
+        selects(wide(40), "h|h|h|^*/*[$]/.*[=9]/<*[1]/>*[1]/^*/#*[$]/.*[=9]", 39, "39");
 
         sentence("A query selects all nodes that one of its paths selects.");
         selects("a|%a|.*", 1, "1 2 4");
