@@ -486,7 +486,7 @@ public final class TreeQueries {
         }
 
         private int lay(int node, int laid) {
-            if (laid < 0 || laid >= MOST_NODES) {
+            if (laid < 0 || laid >= MOST_NODES || node < 0 || node >= MOST_NODES) {
                 return laid;
             }
             order[laid] = node;
@@ -912,6 +912,9 @@ public final class TreeQueries {
         }
 
         void removeStep(int step) {
+            if (step < 0 || step >= length || length > MOST_STEPS) {
+                return;
+            }
             Step removed = steps[step];
             for (int later = step; later + 1 < length; later++) {
                 steps[later] = steps[later + 1];
@@ -969,6 +972,9 @@ public final class TreeQueries {
         }
 
         void removePath(int path) {
+            if (path < 0 || path >= length || length > MOST_PATHS) {
+                return;
+            }
             Path removed = paths[path];
             for (int later = path; later + 1 < length; later++) {
                 paths[later] = paths[later + 1];
